@@ -387,7 +387,8 @@ public final class Stavehouse {
     }
 
     private void breakBook(int number) {
-        openBook(number);
+        needIndex(number, BOOKS);
+        opened.gather(number);
         paper.breakLines();
     }
 
@@ -472,7 +473,10 @@ public final class Stavehouse {
 
         /** The other instrument by which a bar of a part is drawn as a cue, or NONE. */
         int cuePlayer(int part, int bar) {
-            if (!endsLongRest(part, bar)) {
+            boolean endsLongRest = bar >= 2 && bar + 1 < barCount
+                    && isSilent(part, bar - 2) && isSilent(part, bar - 1)
+                    && isSilent(part, bar) && !isSilent(part, bar + 1);
+            if (!endsLongRest) {
                 return NONE;
             }
             int player = NONE;
@@ -487,24 +491,20 @@ public final class Stavehouse {
             return player;
         }
 
-        private boolean endsLongRest(int part, int bar) {
-            return bar >= 2 && bar + 1 < barCount
-                    && isSilent(part, bar - 2) && isSilent(part, bar - 1)
-                    && isSilent(part, bar) && !isSilent(part, bar + 1);
-        }
-
         /** The silence of an instrument around the beginning of a bar. */
         int silenceAround(int instrument, int bar) {
             int silence = 0;
             for (int i = bar - 1; i >= 0; i--) {
-                silence += silenceAtEnd(instrument, i);
-                if (!isSilent(instrument, i)) {
+                int atEnd = silenceAtEnd(instrument, i);
+                silence += atEnd;
+                if (atEnd < barLengths[i]) {
                     break;
                 }
             }
             for (int i = bar; i < barCount; i++) {
-                silence += silenceAtBeginning(instrument, i);
-                if (!isSilent(instrument, i)) {
+                int atBeginning = silenceAtBeginning(instrument, i);
+                silence += atBeginning;
+                if (atBeginning < barLengths[i]) {
                     break;
                 }
             }
@@ -550,21 +550,20 @@ public final class Stavehouse {
         /** How many instruments sound from a sixteenth on; NONE where there is no place. */
         private final int[] sounding = new int[MOST_LENGTH];
 
-        void drawRest() {
+        /** Draws a bar by one instrument, for SCORE by all, or for NONE a rest that begins with it. */
+        void draw(Score score, int drawer, int bar) {
             springCount = 0;
-            addSpring(0, REST_WIDTH, REST_LEAST);
-        }
-
-        /** Draws a bar by one instrument, or for SCORE by all. */
-        void drawBar(Score score, int drawer, int bar) {
+            if (drawer == NONE) {
+                addSpring(0, REST_WIDTH, REST_LEAST);
+                return;
+            }
             Arrays.fill(sounding, NONE);
-            sounding[0] = 0;
             for (int instrument = 0; instrument < INSTRUMENTS; instrument++) {
                 if (drawer == SCORE || drawer == instrument) {
                     addPlaces(score, slotOf(instrument, bar), score.barLengths[bar]);
                 }
             }
-            setSprings(score.barLengths[bar]);
+            addSprings(score.barLengths[bar]);
         }
 
         private void addPlaces(Score score, int slot, int length) {
@@ -587,8 +586,7 @@ public final class Stavehouse {
             }
         }
 
-        private void setSprings(int length) {
-            springCount = 0;
+        private void addSprings(int length) {
             for (int at = 0; at < length; at++) {
                 if (sounding[at] != NONE) {
                     int least = 4 + sounding[at];
@@ -685,24 +683,16 @@ public final class Stavehouse {
         private void addItem(int bar, int drawer) {
             firstBars[itemCount] = bar;
             drawers[itemCount] = drawer;
-            drawItem(itemCount);
+            springs.draw(score, drawer, bar);
             springSums[itemCount + 1] = springSums[itemCount] + springs.widthOfAll();
             leastSums[itemCount + 1] = leastSums[itemCount] + springs.leastOfAll();
             itemCount++;
         }
 
-        private void drawItem(int item) {
-            if (drawers[item] == NONE) {
-                springs.drawRest();
-            } else {
-                springs.drawBar(score, drawers[item], firstBars[item]);
-            }
-        }
-
         /** Draws the item of a bar; answers which of its springs begins there, or NONE. */
         int drawSpring(int bar, int at) {
             int item = barItems[bar];
-            drawItem(item);
+            springs.draw(score, drawers[item], firstBars[item]);
             return firstBars[item] == bar ? springs.springFrom(at) : NONE;
         }
 
@@ -714,21 +704,15 @@ public final class Stavehouse {
         int leastOf(int first, int end) {
             return ITEM_SPACE * (end - first) + leastSums[end] - leastSums[first];
         }
-
-        /** What a turn ahead of an item costs. */
-        int turnCost(int item) {
-            if (number == SCORE) {
-                return 0;
-            }
-            int silence = score.silenceAround(number, firstBars[item]);
-            return 100 * Math.max(0, 16 - silence);
-        }
     }
 
     /** The paper, and the lines on it of the book that was gathered last. */
     private static final class Paper {
         private static final int SPACE_AHEAD = 4;
-        private static final int NO_WAY = Integer.MAX_VALUE;
+        private static final int EASY_TURN = 16;
+
+        /** More than any way costs: a line of all items is far below 10000 wide. */
+        private static final int NO_WAY = 1000000000;
 
         private final Book book;
         private int paperWidth = 200;
@@ -769,10 +753,14 @@ public final class Stavehouse {
         }
 
         private void priceTurns() {
-            for (int item = 0; item < book.itemCount; item++) {
-                turnCosts[item] = book.turnCost(item);
+            Arrays.fill(turnCosts, 0);
+            if (book.number == SCORE) {
+                return;
             }
-            turnCosts[book.itemCount] = 0;
+            for (int item = 0; item < book.itemCount; item++) {
+                int silence = book.score.silenceAround(book.number, book.firstBars[item]);
+                turnCosts[item] = 100 * Math.max(0, EASY_TURN - silence);
+            }
         }
 
         /** Tries the shortest line first and keeps the first of equal ways: it has the lesser row. */
