@@ -244,6 +244,9 @@ public final class LinesEdgesTest {
         Run twelve = run("silence to the end of twelve bars").told("setPaper 80 1");
         bar(twelve, 0, 0, 4, 4, 4, 4, 4, 4, 4, 4);
         twelve.times(11, "bar 1").due(2, "lines 0").due(500, "turns 0").due(48 * 48 + 500, "cost 0");
+        Run eight = run("silence to the eighth rest of the last bar").told("setPaper 80 1", "bar 32").times(8, "note 4 0 4 5");
+        eight.told("bar 6").times(9, "bar 1").told("bar 8").times(8, "note 4 11 1 0").due(2, "lines 4").due(0, "turns 4");
+        eight.told("mend 4 11 0 5").due(100, "turns 4").told("mend 4 11 0 0").due(0, "turns 4");
     }
 
     /** What is asked first is not answered by what another call left behind. */
@@ -260,6 +263,11 @@ public final class LinesEdgesTest {
         Run run = eightNotesEach("silence of bars that were emptied", 4).told("setPaper 80 1").due(4, "lines 0");
         run.due(3 * 1600, "turns 0").told("empty 0 1").due(3, "lines 0").due(800 + 1600, "turns 0");
         run.told("empty 0 2").due(2, "lines 0").due(0, "turns 0").due(256, "cost 0").due(256, "costByAll 0");
+        Run behind = run("silence that begins with a bar that was emptied").told("setPaper 80 1");
+        bar(behind, 0, 0, 4, 4, 4, 4, 4, 4, 4, 4);
+        bar(behind, 1, 0, 1, 1, 1, 1, 1, 1, 1, 1);
+        behind.due(1600, "turns 0").told("empty 0 1").due(2, "lines 0").due(800, "turns 0").due(48 * 48 + 800, "cost 0");
+        behind.told("note 0 1 1 0").due(800, "turns 0").told("note 0 1 2 0", "note 0 1 1 5").due(1300, "turns 0");
     }
 
     /** "In the score turns cost nothing", and a part's cue is silence, for it is not its own. */
