@@ -172,6 +172,23 @@ public final class LinesEdgesTest {
         run.each("lineOf 0 #", 0, 1, 2, 3, 4, 5, 6, 7, 8, 9, 10, 11);
     }
 
+    /** Twelve bars of 32 places: each a line that is 120 more than the narrowest paper. */
+    private static void dearestLines() {
+        int[] silence = {0, 8, 15, 22, 29, 32};
+        Run run = run("the dearest lines").told("setPaper 80 1");
+        for (int bar = 0; bar < 12; bar++) {
+            run.told("bar 32");
+            for (int instrument = 0; instrument < 5; instrument++) {
+                if (instrument > 0) {
+                    run.told("note " + instrument + " " + bar + " " + silence[instrument] + " 0");
+                }
+                run.times(silence[instrument + 1] - silence[instrument], "note " + instrument + " " + bar + " 1 60");
+            }
+        }
+        run.due(12, "lines 5").due(12 * 240 * 240, "cost 5").due(12 * 240 * 240, "costByAll 5").due(0, "turns 5");
+        run.due(4 + 31 * 5, "place 5 11 31").told("setPaper 500 6").due(6, "lines 5").due(100 * 100 * 5, "cost 5");
+    }
+
     /** "Behind the last line of each page, unless the book ends there": lines of one bar each. */
     private static void pages() {
         int[] turnsOfTwelve = {11, 5, 3, 2, 2, 1};
@@ -381,6 +398,7 @@ public final class LinesEdgesTest {
         leastWidthOfARest();
         wideItems();
         mostLines();
+        dearestLines();
         pages();
         silence();
         silenceWithABreak();
