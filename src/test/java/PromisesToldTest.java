@@ -118,6 +118,11 @@ public final class PromisesToldTest {
         run.due(0, "owed 2").due(3, "has 2 0").told("mark 2 0 7").due(7, "markOf 5 2 0").due(1, "deskOf 0");
         Run count = library(says(8, "Returns how many copies are with desks then.")).due(4, "lend 2 2").told("giveBack 0", "giveBack 1").due(3, "lend 0 1");
         count.told("copy 0", "copy 0").due(4, "lend 4 1").due(5, "lend 5 2").told("giveBack 3").due(5, "lend 1 5");
+        says(8, "Returns how many copies are with desks then.").times(6, "copy 3").each("lend # #", 1, 2, 3, 4, 5, 6);
+        Run all = says(8, "Returns how many copies are with desks then.");
+        for (int copy = 0; copy < 16; copy++) {
+            all.told("copy " + copy % 5).due(copy + 1, "lend " + copy + " " + copy / 5);
+        }
         Run none = library(says(8, "Throws `IndexOutOfBoundsException` if there is no such copy or desk"));
         none.noSuch("lend 4 0", "lend -1 0", "lend 2 6", "lend 2 -1", "lend MIN 0", "lend 2 MAX", "lend 0 6", "lend 4 6").due(4, "lend 2 5");
         Run state = library(says(8, "Throws `IllegalStateException` if the copy is with a desk, or the desk has one of this instrument"));
@@ -148,7 +153,7 @@ public final class PromisesToldTest {
         Run had = library(says(11, "Returns the mark that the desk had there; 0 for none.")).due(0, "mark 0 0 5").due(0, "mark 1 0 6").due(5, "mark 0 0 9");
         had.due(0, "mark 0 1 1").due(9, "mark 0 0 0").due(0, "mark 0 0 2").told("mend 2 0 0 6").due(2, "mark 0 0 3").told("paste 0").due(3, "mark 0 0 4");
         Run none = library(says(11, "Throws `IndexOutOfBoundsException` if there is no such copy or bar"));
-        none.noSuch("mark 4 0 1", "mark -1 0 1", "mark 0 3 1", "mark 0 -1 1", "mark 2 3 1", "mark 4 3 10", "mark 0 MAX 1", "mark MIN 0 1");
+        none.noSuch("mark 4 0 1", "mark -1 0 1", "mark 0 3 1", "mark 0 -1 1", "mark 2 3 1", "mark 4 0 10", "mark 4 3 10", "mark 0 MAX 1", "mark MIN 0 1");
         Run range = library(says(11, "Throws `IllegalArgumentException` if sign is out of range")).outOfRange("mark 0 0 10", "mark 2 0 10", "mark 2 0 -1");
         range.told("bar 1").outOfRange("mark 0 3 10", "mark 0 3 -1").due(0, "markOf 1 2 0");
         Run state = library(says(11, "Throws `IllegalStateException` if the copy is at home, or lacks the bar")).refused("mark 2 0 1", "mark 2 0 0").told("bar 1");

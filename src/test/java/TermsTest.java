@@ -204,7 +204,16 @@ public final class TermsTest {
         }
         Run most = says(sentence).times(4, "bar 8").told("note 2 3 8 1", "note 4 2 1 5").due(4, "cue 2 2").told("note 3 2 1 5").due(3, "cue 2 2");
         most.told("note 4 2 1 0").due(4, "cue 2 2").told("note 1 2 1 5", "note 1 2 1 5").due(1, "cue 2 2").told("note 0 2 8 0").due(1, "cue 2 2");
+        // A rest of one bar, and then of two, has none; nor has one at the end, whatever others have in bar 0.
         most.told("note 2 1 1 1").due(-1, "cue 2 2").due(4, "items 2").told("empty 2 1").due(1, "cue 2 2").due(3, "items 2");
+        most.told("note 2 0 1 1").due(-1, "cue 2 2").due(3, "items 2");
+        for (int bars = 3; bars <= 12; bars++) {
+            Run end = says(sentence).times(bars, "bar 8");
+            for (int other = 1; other <= 4; other++) {
+                end.told("note " + other + " 0 8 1", "note " + other + " " + (bars - 1) + " 8 1");
+            }
+            end.due(-1, "cue 0 " + (bars - 1)).due(1, "items 0");
+        }
     }
 
     // ---- springs
@@ -233,6 +242,15 @@ public final class TermsTest {
             at += place[1];
         }
         run.noSuch("place 2 0 1", "place 2 0 6", "place 2 0 9", "place 2 0 12", "place 2 0 15", "place 2 0 16", "place 2 0 -1");
+        // A place on each sixteenth is the most.
+        Run most = says("It has places: its beginning, and wherever a note of one of these instruments begins, or the rest that its notes lack.");
+        notes(notes(most.told("bar 32"), 0, 0, 5, ONES), 1, 0, 0, 8);
+        notes(notes(most, 1, 0, 5, 1, 1, 1, 1, 1, 1, 1), 2, 0, 0, 15);
+        notes(notes(most, 2, 0, 5, 1, 1, 1, 1, 1, 1, 1), 3, 0, 0, 22);
+        notes(notes(notes(most, 3, 0, 5, 1, 1, 1, 1, 1, 1, 1), 4, 0, 0, 29), 4, 0, 1, 1, 1, 1).due(32 * 6 + 8, "width 5 0");
+        for (int each = 0; each < 32; each++) {
+            most.due(4 + 6 * each, "place 5 0 " + each);
+        }
         run.told("note 0 0 12 1").due(4, "place 0 0 0").due(19, "place 0 0 12").noSuch("place 0 0 4").due(4 + 12 + 12 + 9 + 6 + 6, "place 5 0 12");
     }
 
@@ -368,8 +386,8 @@ public final class TermsTest {
             for (int ahead = 0; ahead <= 9; ahead += 3) {
                 for (int behind = 2; behind <= 14; behind += 2) {
                     Run run = says(sentence).told("bar " + (8 + ahead), "bar " + (behind + 6), "setPaper 80 1");
-                    notes(notes(run, part, 0, 5, ONES), part, 1, 0, 1, behind - 1);
-                    notes(run, part, 1, 60, 1, 1, 1, 1, 1, 1).due(2, "lines " + part);
+                    notes(notes(run, part, 0, 1, ONES), part, 1, 0, 1, behind - 1);
+                    notes(run, part, 1, 1, 1, 1, 1, 1, 1, 1).due(2, "lines " + part);
                     int cost = Math.max(0, 1600 - 100 * (ahead + behind));
                     run.due(cost, "turns " + part).told("note " + (part + 1) % 5 + " 0 8 5", "note " + (part + 2) % 5 + " 1 8 5");
                     run.due(cost, "turns " + part).told("mend " + part + " 1 1 9").due(1600 - 100 * (ahead + 1), "turns " + part);
@@ -445,6 +463,9 @@ public final class TermsTest {
         Run run = filled(filled(says(sentence), 1, 0, 1, 4, 4), 1, 1, 1, 8, 2).told("setPaper 83 6");
         wide(run, 1, 2, 1).each("lineOf 1 #", 0, 0, 1).due(4, "place 1 0 0").due(4 + 12 + 4, "place 1 0 4");
         run.due(8 + 4 + 24 + 9, "place 1 1 0").due(8 + 4 + 39 + 15, "place 1 1 8").due(4, "place 1 2 0").due(4 + 63, "place 1 2 14");
+        // Each line is counted from its own first spring on.
+        Run lines = filled(says(sentence), 2, 0, 7, 8).told("setPaper 80 6").due(3, "lines 2");
+        lines.each("place 2 # 0", 4, 27 + 3, 50 + 7, 4, 27 + 3, 50 + 7, 4);
         // 83 and 32 are 115, of which 15 are more: of 75 and 24, 35 and 14 are above the least widths.
         Run shrunk = filled(wide(says(sentence), 4, 0, 1), 4, 1, 1, 4, 4).told("setPaper 100 1").due(1, "lines 4");
         shrunk.due(4, "place 4 0 0").due(4 + 9 - 15 * 4 / 49, "place 4 0 2").due(4 + 63 - 15 * 28 / 49, "place 4 0 14");
